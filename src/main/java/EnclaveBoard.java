@@ -202,10 +202,15 @@ public final class EnclaveBoard {
             words[word] = words[word] & ~place | v << shift(at) & place;
         }
 
-        /** Base and size are multiples of 8. */
-        void zero(int base, int size) {
-            if (base >= 0 && size >= 0 && base <= MEMORY_BYTES - size) {
-                Arrays.fill(words, base / 8, (base + size) / 8, 0L);
+        /** The end is a multiple of 8, where it starts need not be one. */
+        void zero(int from, int end) {
+            int at = from;
+            while (at < end && (at & 7) != 0) {
+                store(at, 1, 0);
+                at++;
+            }
+            if (at >= 0 && at < end && end <= MEMORY_BYTES) {
+                Arrays.fill(words, at / 8, end / 8, 0L);
             }
         }
 
@@ -413,7 +418,7 @@ public final class EnclaveBoard {
             }
             boolean has = first < behind && first < MEMORY_BYTES / 4;
             low[i] = has ? (int) first * 4 : 0;
-            high[i] = has ? (int) Math.min(behind, MEMORY_BYTES / 4) * 4 : 0;
+            high[i] = !has ? 0 : behind < MEMORY_BYTES / 4 ? (int) behind * 4 : MEMORY_BYTES;
         }
     }
 
@@ -1039,7 +1044,11 @@ public final class EnclaveBoard {
             stayed++;
             if (outcome == ECALL) {
                 own.registers.pc += 4;
-                answerEnclave(own);
+                if (own.registers.get(17) == 1) {
+                    leave(EXIT, own.registers.get(10));
+                } else {
+                    answerEnclave(own);
+                }
             } else if (outcome != DONE) {
                 leave(FAULT, outcome);
             }
@@ -1097,9 +1106,13 @@ public final class EnclaveBoard {
             if (e == NONE) {
                 return TOO_MANY;
             }
+            Enclave made = enclaves[e];
             long measure = measureOfRequest();
-            enclaves[e].begin(request, measure, keyOf(measure));
-            fillMemory();
+            made.begin(request, measure, keyOf(measure));
+            // The image goes ahead of the 0s, since it may lie where they come.
+            int length = (int) request.length;
+            memory.copy((int) request.image, made.base, length);
+            memory.zero(made.base + length, made.base + made.size);
             creates++;
             arrange();
             return e;
@@ -1118,20 +1131,6 @@ public final class EnclaveBoard {
                         || protection.letsEach((int) request.shared, (int) request.sharedSize, both))
                     && (request.length == 0
                         || protection.letsEach((int) request.image, (int) request.length, Pmp.READ));
-        }
-
-        /** The image is moved ahead of the 0s, since it may lie where they come. */
-        private void fillMemory() {
-            int base = (int) request.base;
-            int length = (int) request.length;
-            int size = (int) request.size;
-            memory.copy((int) request.image, base, length);
-            int end = length;
-            while (end < size && (end & 7) != 0) {
-                memory.store(base + end, 1, 0);
-                end++;
-            }
-            memory.zero(base + end, size - end);
         }
 
         private long measureOfRequest() {
@@ -1167,7 +1166,7 @@ public final class EnclaveBoard {
 
         private void remove(Enclave gone) {
             if (gone.status != Enclave.ABSENT) {
-                memory.zero(gone.base, gone.size);
+                memory.zero(gone.base, gone.base + gone.size);
                 gone.status = Enclave.ABSENT;
             }
         }
@@ -1201,12 +1200,11 @@ public final class EnclaveBoard {
             arrange();
         }
 
-        private void answerEnclave(Enclave own) {
+        /** The CALLS of an enclave that do not end its stay. */
+        private static void answerEnclave(Enclave own) {
             Registers x = own.registers;
             long call = x.get(17);
-            if (call == 1) {
-                leave(EXIT, x.get(10));
-            } else if (call == 2) {
+            if (call == 2) {
                 x.set(10, own.key);
             } else if (call == 3) {
                 x.set(10, own.base);

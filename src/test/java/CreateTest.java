@@ -14,6 +14,7 @@ public final class CreateTest {
         order(check);
         images(check);
         destroyAndAsk(check);
+        atTheEdges(check);
         otherCalls(check);
         check.end();
     }
@@ -57,6 +58,7 @@ public final class CreateTest {
             check.due("shared 0 " + size, answer(BASE, 64, IMAGE, 4, 0, 0, size), 0);
         }
         check.due("base 0", answer(0, 32, IMAGE, 4, 0, 0, 0), 0);
+        check.due("the first image", answer(BASE, 64, 0, 33, 0, 0, 0), 0);
         check.due("the last image", answer(BASE, 64, 65536 - 33, 33, 0, 0, 0), 0);
         for (long image : new long[] {-1, 65536, Long.MIN_VALUE}) {
             check.due("no image at " + image, answer(BASE, 64, image, 0, 0, 0, 0), 0);
@@ -251,6 +253,25 @@ public final class CreateTest {
         check.due("made again: stays", board.enclave(0, 6), 0);
         check.due("made again: STEPS", board.enclave(0, 7), 0);
         check.due("made again: shares", board.enclave(0, 4), 0);
+    }
+
+    private static void atTheEdges(Check check) {
+        for (int base : new int[] {0, 65536 - 64}) {
+            Code host = new Code().create(base, 64, IMAGE, 5, 0, 0, 0).call(3, 0);
+            EnclaveBoard board = Bench.inU(host, new Code().add(-1, -1));
+            for (int at = base; at < base + 64; at += 8) {
+                board.poke(at, -1);
+            }
+            board.run(host.size() - 3);
+            for (int k = 0; k < 8; k++) {
+                check.due("made at " + base + ": word " + k, board.eye(0, 35 + k), k == 0 ? 0xffffffffffL : 0);
+            }
+            board.run(3);
+            check.due("destroyed at " + base, board.enclave(0, 0), 0);
+            for (int at = base; at < base + 64; at += 8) {
+                check.due("destroyed at " + base + ": " + at, board.peek(at), 0);
+            }
+        }
     }
 
     private static void otherCalls(Check check) {

@@ -10,6 +10,7 @@ public final class PmpTest {
         partial(check);
         inM(check);
         locks(check);
+        addressBehindByte(check);
         monitorsEntries(check);
         check.end();
     }
@@ -156,6 +157,20 @@ public final class PmpTest {
         check.due("the address ahead of it", board.pmp(14, 1), 8);
         board = Bench.afterM(new Code().csrw(Asm.PMPCFG2, 0x80).li(6, 0xff).add(Asm.csr(3, 7, Asm.PMPCFG2, 6)));
         check.due("CSRRC does not take a lock off", board.pmp(8, 0), 0x80);
+    }
+
+    private static void addressBehindByte(Check check) {
+        long here = DATA / 4 + 31;
+        Code napot = new Code().csrw(Asm.PMPCFG2, 0x98).csrw(Asm.PMPADDR0 + 8, here).li(6, DATA).add(Asm.ld(7, 6, 0));
+        check.due("a locked address stays", Bench.afterM(napot).state(3), -1);
+        Code later = new Code().csrw(Asm.PMPCFG2, 0x1f00).csrw(Asm.PMPADDR0 + 9, Bench.HOST / 4 + 255).csrw(Asm.PMPCFG2, 0x1f19)
+                .csrw(Asm.PMPADDR0 + 8, here).csrw(Asm.MEPC, Bench.HOST).add(Asm.MRET);
+        check.due("the address behind the byte", loads(later, DATA, 3), -1);
+        Code lower = new Code().csrw(Asm.PMPADDR0 + 10, Bench.HOST / 4 + 255).csrw(Asm.PMPADDR0 + 9, 1L << 40)
+                .csrw(Asm.PMPADDR0 + 8, 1L << 40).csrw(Asm.PMPCFG2, 0x1f0900).csrw(Asm.PMPADDR0 + 8, DATA / 4)
+                .csrw(Asm.MEPC, Bench.HOST).add(Asm.MRET);
+        check.due("the lower border of TOR behind the byte", loads(lower, DATA, 3), -1);
+        check.due("ahead of it", loads(lower, DATA - 8, 3), 5);
     }
 
     private static void monitorsEntries(Check check) {

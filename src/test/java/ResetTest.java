@@ -8,6 +8,7 @@ public final class ResetTest {
         whileAnEnclaveRuns(check);
         afterStopAndDown(check);
         pcOfAnyKind(check);
+        csrsGo(check);
         locksGo(check);
         interruptGoes(check);
         check.end();
@@ -97,6 +98,17 @@ public final class ResetTest {
             check.due("pc at " + pc, board.held(0), pc);
             check.due("mepc at " + pc, board.held(4), pc & ~3L);
         }
+    }
+
+    private static void csrsGo(Check check) {
+        EnclaveBoard board = Bench.afterM(new Code().csrw(Asm.MSTATUS, -1).csrw(Asm.MSCRATCH, -1).csrw(Asm.MEPC, -1)
+                .csrw(Asm.MCAUSE, -1).csrw(Asm.MTVAL, -1).csrw(Asm.PMPADDR0 + 12, -1));
+        board.reset(8);
+        check.due("pc", board.held(0), 8);
+        for (int what = 1; what < 7; what++) {
+            check.due("held(" + what + ")", board.held(what), 0);
+        }
+        check.due("address 12", board.pmp(12, 1), 0);
     }
 
     private static void locksGo(Check check) {
