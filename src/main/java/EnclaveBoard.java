@@ -533,6 +533,8 @@ public final class EnclaveBoard {
 
     /** What RV64I and M compute, by funct3. */
     private static final class Alu {
+        private static final long LOW_WORD = 0xffffffffL;
+
         static long basic(int kind, boolean other, long a, long b) {
             int shift = (int) b & 63;
             switch (kind) {
@@ -561,8 +563,7 @@ public final class EnclaveBoard {
                 case 0: return a * b;
                 case 1: return Math.multiplyHigh(a, b);
                 case 2: return Math.multiplyHigh(a, b) + (a & b >> 63);
-                case 3: return Math.multiplyHigh(a, b) + (a & b >> 63) + (b & a >> 63);
-                default: return divided(kind, a, b);
+                default: return Math.multiplyHigh(a, b) + (a & b >> 63) + (b & a >> 63);
             }
         }
 
@@ -570,19 +571,34 @@ public final class EnclaveBoard {
             switch (kind) {
                 case 0: return a * b;
                 case 4: return b == 0 ? -1 : a / b;
-                case 5: return b == 0 ? -1 : Integer.divideUnsigned(a, b);
+                case 5: return b == 0 ? -1 : (int) ((a & LOW_WORD) / (b & LOW_WORD));
                 case 6: return b == 0 ? a : a % b;
-                default: return b == 0 ? a : Integer.remainderUnsigned(a, b);
+                default: return b == 0 ? a : (int) ((a & LOW_WORD) % (b & LOW_WORD));
             }
         }
 
-        private static long divided(int kind, long a, long b) {
+        static long divided(int kind, long a, long b) {
             switch (kind) {
                 case 4: return b == 0 ? -1 : a / b;
-                case 5: return b == 0 ? -1 : Long.divideUnsigned(a, b);
+                case 5: return quotientWithoutSign(a, b);
                 case 6: return b == 0 ? a : a % b;
-                default: return b == 0 ? a : Long.remainderUnsigned(a, b);
+                default: return b == 0 ? a : a - quotientWithoutSign(a, b) * b;
             }
+        }
+
+        private static long quotientWithoutSign(long a, long b) {
+            if (b == 0) {
+                return -1;
+            }
+            if (b < 0) {
+                // Twice such a divisor is above 64 bits, so it goes into the dividend once at most.
+                return Long.compareUnsigned(a, b) < 0 ? 0 : 1;
+            }
+            // Half the dividend has no sign bit, so Java may divide it; twice that quotient is
+            // the due one or 1 less, and the rest tells which.
+            long quotient = (a >>> 1) / b << 1;
+            long rest = a - quotient * b;
+            return Long.compareUnsigned(rest, b) < 0 ? quotient : quotient + 1;
         }
 
         static boolean holds(int kind, long a, long b) {
@@ -710,7 +726,7 @@ public final class EnclaveBoard {
             long a = first(x, word);
             long b = second(x, word);
             if (family == 1) {
-                return finish(x, word, Alu.multiplied(kind, a, b));
+                return finish(x, word, kind < 4 ? Alu.multiplied(kind, a, b) : Alu.divided(kind, a, b));
             }
             boolean other = family == 0x20 && (kind == 0 || kind == 5);
             if (family != 0 && !other) {
