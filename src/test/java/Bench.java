@@ -2,6 +2,8 @@
 final class Bench {
     static final int HOST = 4096;
     static final int IMAGE = 8192;
+    static final int BASE = 16384;
+    static final int SHARED = 12288;
     static final long ALL = (1L << 54) - 1;
 
     private Bench() { }
@@ -47,6 +49,26 @@ final class Bench {
     static EnclaveBoard afterU(Code host) {
         EnclaveBoard board = inU(host, new Code());
         board.run(host.size());
+        return board;
+    }
+
+    /** Makes an enclave of 256 bytes at BASE with the image at IMAGE, which shares 64 bytes at SHARED. */
+    static Code made() {
+        return new Code().create(BASE, 256, IMAGE, 256, 0, SHARED, 64);
+    }
+
+    /** A board whose enclave 0 is at its first instruction, for n STEPS; behind the host's ECALL are two NOPs. */
+    static EnclaveBoard entered(Code image, long n) {
+        Code host = made().enter(0, n).add(Asm.NOP, Asm.NOP);
+        EnclaveBoard board = inU(host, image);
+        board.run(host.size() - 2);
+        return board;
+    }
+
+    /** A board whose enclave 0 has run to the end of its image, a step for each word. */
+    static EnclaveBoard afterEnclave(Code image) {
+        EnclaveBoard board = entered(image, 0);
+        board.run(image.size());
         return board;
     }
 }

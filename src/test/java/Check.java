@@ -1,6 +1,9 @@
 /** Counts what a test asks, prints every answer that is not the one that is due, and ends with exit code 1 then. */
 final class Check {
     private final String name;
+    private String sentence = "";
+    private int askedOfSentence = 1;
+    private int sentences;
     private int asked;
     private int wrong;
 
@@ -8,11 +11,21 @@ final class Check {
         this.name = name;
     }
 
+    /** What is asked from here on is asked of these words of the document. */
+    Check about(String words) {
+        refuseEmptySentence();
+        sentence = "\"" + words + "\": ";
+        sentences++;
+        askedOfSentence = 0;
+        return this;
+    }
+
     void due(String what, long got, long want) {
         asked++;
+        askedOfSentence++;
         if (got != want) {
             wrong++;
-            System.out.println(name + ": " + what + " answered " + got + ", due is " + want);
+            System.out.println(name + ": " + sentence + what + " answered " + got + ", due is " + want);
         }
     }
 
@@ -21,9 +34,17 @@ final class Check {
     }
 
     void end() {
-        System.out.println(name + ": " + asked + " asked, " + wrong + " wrong");
+        refuseEmptySentence();
+        System.out.println(name + ": " + (sentences == 0 ? "" : sentences + " sentences, ") + asked + " asked, " + wrong + " wrong");
         if (wrong != 0 || asked == 0) {
             System.exit(1);
+        }
+    }
+
+    private void refuseEmptySentence() {
+        if (askedOfSentence == 0) {
+            wrong++;
+            System.out.println(name + ": " + sentence + "nothing was asked");
         }
     }
 }
