@@ -215,7 +215,8 @@ public final class CreateBoundaryTest {
             check.due("shares at " + off, second(BASE + 128, 32, BASE + off, 8), meets ? -2 : 1);
         }
         check.due("shares all around it", second(BASE + 4096, 32, BASE, 4096), -2);
-        check.due("shares nothing there", second(BASE + 128, 32, BASE, 0), 1);
+        check.due("shares nothing, at its base", second(BASE + 128, 32, BASE, 0), 1);
+        check.due("shares nothing, inside it", second(BASE + 128, 32, BASE + 8, 0), 1);
         Code faulted = new Code().create(BASE, 32, 0, 0, 0, 0, 0).enter(0, 0).create(BASE + 32, 32, 0, 0, 0, BASE, 8);
         EnclaveBoard board = Bench.inU(faulted, new Code());
         board.run(faulted.size() + 1);
@@ -234,6 +235,29 @@ public final class CreateBoundaryTest {
         return board.register(10);
     }
 
+    /** A host that may all below an address and nothing from there on. */
+    private static long openUpTo(int end, Code host) {
+        Code firmware = new Code().csrw(Asm.PMPADDR0 + 8, end / 4).csrw(Asm.PMPCFG2, 0x0f).csrw(Asm.MEPC, Bench.HOST).add(Asm.MRET);
+        EnclaveBoard board = Bench.inU(firmware, host, new Code());
+        board.run(host.size());
+        return board.register(10);
+    }
+
+    /** Seven entries of four bytes each in the enclave's memory, one of them with other rights, and all else open. */
+    private static long islands(int closed) {
+        Code firmware = new Code();
+        long configs = 0x1fL << 56;
+        for (int k = 0; k < 7; k++) {
+            firmware.csrw(Asm.PMPADDR0 + 8 + k, BASE / 4 + 1 + 2 * k);
+            configs |= (k == closed ? 0x11L : 0x13L) << 8 * k;
+        }
+        firmware.csrw(Asm.PMPADDR0 + 15, -1).csrw(Asm.PMPCFG2, configs).csrw(Asm.MEPC, Bench.HOST).add(Asm.MRET);
+        Code host = new Code().create(BASE, 64, BASE, 64, 0, 0, 0);
+        EnclaveBoard board = Bench.inU(firmware, host, new Code());
+        board.run(host.size());
+        return board.register(10);
+    }
+
     private static void mayReadAndWrite(Check check) {
         Code host = new Code().create(BASE, 64, IMAGE, 16, 0, SHARED, 16);
         for (int off = -4; off <= 64; off += 4) {
@@ -245,6 +269,13 @@ public final class CreateBoundaryTest {
         for (int config : new int[] {0x13, 0x17}) {
             check.due("memory with " + config, guarded(config, BASE, host), 0);
             check.due("shared with " + config, guarded(config, SHARED, host), 0);
+        }
+        for (int end = 0; end <= 68; end += 4) {
+            check.due("memory that is open up to " + end, openUpTo(BASE + end, host), end < 64 ? -4 : 0);
+        }
+        for (int end = 0; end <= 20; end += 4) {
+            Code below = new Code().create(4096 + 1024, 64, 0, 0, 0, SHARED, 16);
+            check.due("shared that is open up to " + end, openUpTo(SHARED + end, below), end < 16 ? -4 : 0);
         }
         Code nothing = new Code().create(BASE, 64, IMAGE, 16, 0, SHARED, 0);
         check.due("nothing shared, nothing asked", guarded(0x10, SHARED, nothing), 0);
@@ -260,6 +291,10 @@ public final class CreateBoundaryTest {
                 check.due("to read alone, of " + length + " at " + off, guarded(0x11, IMAGE + off, host), 0);
             }
         }
+        for (int end = 0; end <= 20; end += 4) {
+            Code host = new Code().create(5120, 64, IMAGE, 16, 0, 0, 0);
+            check.due("an image that is open up to " + end, openUpTo(IMAGE + end, host), end < 16 ? -4 : 0);
+        }
         check.due("of no image no byte", guarded(0x10, IMAGE, new Code().create(BASE, 64, IMAGE, 0, 0, 0, 0)), 0);
     }
 
@@ -268,13 +303,15 @@ public final class CreateBoundaryTest {
         for (int at : new int[] {BASE, BASE + 4, BASE + 60, SHARED + 4, IMAGE + 4}) {
             check.due("an entry with a part of it at " + at, guarded(0x13, at, host), 0);
         }
-        Code made = new Code().create(BASE, 64, IMAGE, 16, 0, 0, 0);
+        for (int closed = 0; closed <= 7; closed++) {
+            check.due("seven entries in it, without W in " + closed, islands(closed), closed < 7 ? -4 : 0);
+        }
         check.due("the image is a live enclave's", Bench.afterU(new Code().create(BASE, 64, 0, 0, 0, 0, 0).create(BASE + 64, 64, BASE, 64, 0, 0, 0)).register(10), -4);
         for (int off = -17; off <= 64; off++) {
             Code both = new Code().create(BASE, 64, IMAGE, 16, 0, 0, 0).create(BASE + 256, 64, BASE + off, 16, 0, 0, 0);
             check.due("the image at " + off + " of one", Bench.afterU(both).register(10), off > -16 && off < 64 ? -4 : 1);
         }
-        Code gone = made.call(3, 0).create(BASE + 64, 64, BASE, 16, 0, 0, 0);
+        Code gone = new Code().create(BASE, 64, IMAGE, 16, 0, 0, 0).call(3, 0).create(BASE + 64, 64, BASE, 16, 0, 0, 0);
         check.due("now: it is not live any more", Bench.afterU(gone).register(10), 0);
     }
 

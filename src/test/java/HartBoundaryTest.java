@@ -135,6 +135,7 @@ public final class HartBoundaryTest {
         check.due("a load that wraps around", board.register(7), 77);
         check.due("a store that wraps around", board.peek(DATA + 8), 77);
         check.due("JALR that wraps around", Bench.afterM(new Code().li(6, -4).add(Asm.jalr(1, 6, 12))).held(0), 8);
+        farOffsets(check);
         board = Bench.afterM(new Code().li(6, Long.MAX_VALUE).add(Asm.load(0, 7, 6, 1)));
         check.due("behind the highest with sign", board.held(1), Long.MIN_VALUE);
         board = Bench.afterM(new Code().add(Asm.load(0, 7, 0, -1)));
@@ -147,6 +148,20 @@ public final class HartBoundaryTest {
             board.run(1);
             check.due("the fetch there is none", board.state(3), 1);
             check.due("VALUE", board.held(1), -4);
+        }
+    }
+
+    private static void farOffsets(Check check) {
+        for (int offset : new int[] {0xffffc, 0x80000, 0x1000, 0x800, 0x400, -4, -0x800, -0x1000, -0x100000}) {
+            check.due("JAL by " + offset, Bench.afterM(new Code().add(Asm.NOP, Asm.jal(1, offset))).held(0), 4L + offset);
+        }
+        for (int offset : new int[] {0xffc, 0x800, 0x7fc, 0x400, -4, -0x800, -0x1000}) {
+            check.due("BEQ by " + offset, Bench.afterM(new Code().add(Asm.NOP, Asm.branch(0, 0, 0, offset))).held(0), 4L + offset);
+        }
+        for (int offset : new int[] {2047, 1, -1, -2048}) {
+            check.due("LB by " + offset, Bench.afterM(new Code().li(6, 1L << 40).add(Asm.load(0, 7, 6, offset))).held(1), (1L << 40) + offset);
+            check.due("SB by " + offset, Bench.afterM(new Code().li(6, 1L << 40).add(Asm.s(0, 6, 7, offset))).held(1), (1L << 40) + offset);
+            check.due("JALR by " + offset, Bench.afterM(new Code().li(6, 1L << 40).add(Asm.jalr(7, 6, offset & -4))).held(0), (1L << 40) + (offset & -4));
         }
     }
 

@@ -8,6 +8,8 @@ public final class MonitorBoundaryTest {
 
     public static void main(String[] args) {
         Check check = new Check("MonitorBoundaryTest");
+        hostRuns(check.about("As soon as the mode is U the HOST runs"));
+        hostMay(check.about("What the HOST may: what PMP, as it is as long as the host runs, lets mode U do"));
         hostStops(check.about("A FAULT of the host: it is STOPPED, with the number and VALUE, its pc that of the instruction"));
         ecallsOfHost(check.about("An ECALL in mode U (a STEP): the CALL that x17 tells, then the pc is 4 more .."));
         ecallsOfEnclave(check.about(".. (of an enclave too, ahead of all)"));
@@ -37,6 +39,36 @@ public final class MonitorBoundaryTest {
 
     private static Code exit() {
         return new Code().li(17, 1).add(Asm.ECALL);
+    }
+
+    private static void hostRuns(Check check) {
+        EnclaveBoard board = Bench.inM(Bench.openFirmware());
+        board.run(Bench.openFirmware().size() - 1);
+        check.due("ahead of MRET", board.state(0), 3);
+        board.run(1);
+        check.due("behind MRET", board.state(0), 0);
+        check.due("no enclave runs", board.state(2), NONE);
+        check.due("its pc", board.held(0), Bench.HOST);
+        check.due("its registers are mode M's", board.register(5), Bench.HOST);
+    }
+
+    private static void hostMay(Check check) {
+        Code host = new Code().create(BASE, 32, 0, 0, 0, 0, 0);
+        for (int config : new int[] {0, 0x18, 0x19, 0x1b, 0x1c, 0x98, 0x9b}) {
+            Code firmware = new Code().csrw(Asm.PMPADDR0 + 8, Bench.HOST / 4 + 31).csrw(Asm.PMPADDR0 + 9, BASE / 4 + 31)
+                    .csrw(Asm.PMPCFG2, 0x1c | config << 8).csrw(Asm.MEPC, Bench.HOST).add(Asm.MRET);
+            EnclaveBoard board = Bench.inU(firmware, host, new Code());
+            board.run(host.size());
+            check.due("CREATE where PMP has " + config, board.register(10), (config & 3) == 3 ? 0 : -4);
+        }
+        Code live = Bench.made().li(6, BASE).add(Asm.load(4, 7, 6, 0));
+        check.due("a live enclave's first byte", Bench.afterU(live).state(3), 5);
+        Code last = Bench.made().li(6, BASE + 255).add(Asm.s(0, 6, 7, 0));
+        check.due("a live enclave's last byte", Bench.afterU(last).state(3), 7);
+        Code behind = Bench.made().li(6, BASE + 256).add(Asm.s(0, 6, 7, 0), Asm.load(4, 7, 6, -257), Asm.s(0, 0, 7, 0));
+        check.due("beside a live enclave", Bench.afterU(behind).state(1), 0);
+        Code shared = Bench.made().li(6, Bench.SHARED).add(Asm.ld(7, 6, 0), Asm.sd(7, 6, 56));
+        check.due("what one shares", Bench.afterU(shared).state(1), 0);
     }
 
     private static void hostStops(Check check) {
@@ -283,6 +315,7 @@ public final class MonitorBoundaryTest {
     }
 
     private static void destroy(Check check) {
+        destroyEach(check);
         Code[] images = {new Code().add(-1), new Code().add(Asm.NOP, Asm.NOP)};
         for (int base : new int[] {0, BASE, 65536 - 32}) {
             for (Code image : images) {
@@ -302,6 +335,21 @@ public final class MonitorBoundaryTest {
                 check.due("ahead of it", board.peek(base - 8), base == 0 ? 0 : -1);
                 check.due("behind it", board.peek(base + 32), base == 65536 - 32 ? 0 : -1);
                 check.due("what it shared", board.peek(Bench.SHARED), 7);
+            }
+        }
+    }
+
+    private static void destroyEach(Check check) {
+        for (int e = 0; e < 6; e++) {
+            Code host = new Code();
+            for (int k = 0; k < 6; k++) {
+                host.create(BASE + 32 * k, 32, 0, 0, 0, 0, 0);
+            }
+            EnclaveBoard board = Bench.afterU(host.call(3, e, 77));
+            check.due("x10 of " + e, board.register(10), 0);
+            check.due("x11 of " + e, board.register(11), 77);
+            for (int k = 0; k < 6; k++) {
+                check.due(k + " behind DESTROY of " + e, board.enclave(k, 0), k == e ? 0 : 1);
             }
         }
     }

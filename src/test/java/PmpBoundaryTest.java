@@ -119,6 +119,11 @@ public final class PmpBoundaryTest {
         range(check, "from the address ahead, whatever its byte", firmware(0x09_11, DATA / 4, DATA / 4 + 3), DATA, DATA + 12);
         range(check, "to the end", firmware(0x09_00, DATA / 4, 16384), DATA, 65536);
         range(check, "beyond the end", firmware(0x09_00, DATA / 4, -1), DATA, 65536);
+        range(check, "up to the last word", firmware(0x09_00, DATA / 4, 16383), DATA, 65532);
+        range(check, "the last word", firmware(0x09_00, 16383, 16384), 65532, 65536);
+        Code later = new Code().csrw(Asm.PMPADDR0 + 15, (Bench.HOST >> 2) + 255).csrw(Asm.PMPCFG2, 0x1cL << 56 | 0x09_00)
+                .csrw(Asm.PMPADDR0 + 9, DATA / 4 + 2).csrw(Asm.PMPADDR0 + 8, DATA / 4 + 1).csrw(Asm.MEPC, Bench.HOST).add(Asm.MRET);
+        range(check, "addresses behind the byte", later, DATA + 4, DATA + 8);
         range(check, "one word", firmware(0x09_00, DATA / 4, DATA / 4 + 1), DATA, DATA + 4);
         for (long high : new long[] {DATA / 4, DATA / 4 - 1, 0}) {
             Code empty = firmware(0x19_08_00, DATA / 4, high, DATA / 4);

@@ -3,6 +3,7 @@ public final class PromiseBoundaryTest {
     private static final int BASE = Bench.BASE;
     private static final int NONE = EnclaveBoard.NONE;
     private static final int[] FAR = {Integer.MIN_VALUE, Integer.MIN_VALUE + 1, -65536, -100, -2, -1, 100, 65536, Integer.MAX_VALUE - 1, Integer.MAX_VALUE};
+    private static final int[] NO_WORDS = {-8, -1, 1, 2, 4, 7, 9, 65521, 65529, 65532, 65535, 65536, 65544, 131072, 1 << 30, Integer.MIN_VALUE, Integer.MAX_VALUE, Integer.MAX_VALUE - 7};
 
     public static void main(String[] args) {
         Check check = new Check("PromiseBoundaryTest");
@@ -173,8 +174,6 @@ public final class PromiseBoundaryTest {
             }
         }
     }
-
-    private static final int[] NO_WORDS = {-8, -1, 1, 2, 4, 7, 9, 65521, 65529, 65532, 65535, 65536, 65544, 131072, 1 << 30, Integer.MIN_VALUE, Integer.MAX_VALUE, Integer.MAX_VALUE - 7};
 
     private static void pokeNone(Check check) {
         EnclaveBoard board = new EnclaveBoard(0);
