@@ -285,6 +285,10 @@ public final class PmpBoundaryTest {
     }
 
     private static void monitors(Check check) {
+        EnclaveBoard others = Bench.afterM(new Code().csrw(Asm.PMPCFG2, 0x1717171717171717L).csrw(Asm.PMPADDR0 + 8, -1)
+                .li(7, 5).li(8, 5).add(Asm.csrr(7, Asm.PMPCFG0), Asm.csrr(8, Asm.PMPADDR0 + 7)));
+        check.due("pmpcfg0 beside entries that are not 0", others.register(7), 0);
+        check.due("pmpaddr7 beside an entry that is not 0", others.register(8), 0);
         for (int kind : new int[] {1, 2, 5, 6}) {
             Code code = new Code().li(31, -1).add(Asm.csr(kind, 7, Asm.PMPCFG0, 31));
             for (int i = 0; i < 8; i++) {

@@ -442,9 +442,16 @@ public final class PromiseBoundaryTest {
                 check.due("eye(" + e + ", " + what + ")", board.eye(e, what), 0);
             }
         }
-        for (int what : new int[] {-1, -2, -35, Integer.MIN_VALUE}) {
+        Code image = new Code();
+        for (int k = 1; k < 32; k++) {
+            image.add(Asm.addi(k, 0, k));
+        }
+        board = Bench.afterEnclave(image);
+        check.due("no register is 0 but x0", board.eye(0, 31), 31);
+        for (int what = -40; what < 0; what++) {
             check.due("eye(0, " + what + ")", board.eye(0, what), 0);
         }
+        check.due("eye(0, MIN_VALUE + 31)", board.eye(0, Integer.MIN_VALUE + 31), 0);
         board = Bench.afterU(Bench.made().call(3, 0));
         for (int what : whats) {
             check.due("not live any more: " + what, board.eye(0, what), 0);
